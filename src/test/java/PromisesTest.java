@@ -62,6 +62,7 @@ public final class PromisesTest {
             due("3: kind", b.of(19, 0), kind);
             due("3: tape", b.count(2), 0);
             due("3: need", b.of(19, 3), kind == 0 || kind == 3 ? 256 : 128);
+            due("3: reads", b.of(19, 2), kind == 0 || kind == 3 ? 0 : 1);
             was = kind;
         }
         b.scene(19, 2);
@@ -175,6 +176,13 @@ public final class PromisesTest {
         due("4: loss again", b.loss(7, 0), 255);
         due("4: loss once more", b.loss(7, 5), 0);
         due("4: SET", b.of(7, 4), 5);
+        b.scene(0, 0);
+        b.choice(0, 0, 7);
+        b.gives(0, 0, 1, 0);
+        b.choice(7, 0, 0);
+        due("4: a is lost", b.states(0), 2);
+        b.loss(7, 4);
+        due("4: a is not lost any more", b.states(0), 3);
         for (int s : NO_SCENES) {
             Tales.finding("4: loss(" + s + ", 1)", BAD, x -> x.loss(s, 1));
         }
@@ -375,6 +383,11 @@ public final class PromisesTest {
     }
 
     private static void p12States() {
+        TaleBench alone = new TaleBench();
+        due("12: none is there", alone.states(0), 0);
+        alone.scene(0, 0);
+        due("12: STUCK at once", alone.states(2), 1);
+        due("12: and HOPELESS", alone.states(3), 1);
         TaleBench b = well();
         // 0:-, 1:-, 2:a, 4:-, 4:b, 3:a, 5:b
         due("12: REACHED", b.states(0), 7);
@@ -458,11 +471,24 @@ public final class PromisesTest {
         due("14: none at an ending", b.live(0), 0);
         b.scene(0, 4);
         due("14: none at a PRIZE", b.live(0), 0);
+        liveNoMore();
         liveThroughNeeds();
         for (int s : NO_SCENES) {
             Tales.finding("14: live(" + s + ")", BAD, x -> x.live(s));
         }
         Tales.finding("14: live at none", NOTHING, x -> x.live(9));
+    }
+
+    private static void liveNoMore() {
+        TaleBench b = new TaleBench();
+        b.scene(0, 0);
+        b.scene(1, 0);
+        b.choice(0, 0, 1);
+        b.choice(1, 0, 0);
+        Tales.choice(b, 1, 1, 0, "c");
+        due("14: in a ring", b.live(0) * 10L + b.live(1), 44);
+        b.drop(1, 1);
+        due("14: no more", b.live(0) * 10L + b.live(1), 0);
     }
 
     private static void liveThroughNeeds() {
@@ -551,6 +577,9 @@ public final class PromisesTest {
         for (int i : new int[] {-1, 120, Integer.MIN_VALUE, Integer.MAX_VALUE}) {
             due("16: trap(" + i + ")", b.trap(i), NONE);
         }
+        b.choice(0, 0, 5);
+        b.choice(0, 4, 1);
+        due("16: CHOICE 0 of SCENE 0", b.trap(0), 0);
         b.drop(2, 0);
         due("16: all is past hope", b.trap(0), NONE);
         Tales.finding("16: none", NONE, x -> x.trap(5));
@@ -710,8 +739,10 @@ public final class PromisesTest {
             for (int sort = 0; sort < 3; sort++) {
                 due("22: sheet", b.sheet(s, sort, 30), 30);
                 due("22: all 0", b.write(s, 29, 5), 0);
+                due("22: all 0", b.write(s, 0, 5), 0);
                 due("22: again", b.sheet(s, sort, 30), 30);
                 due("22: all 0 again", b.write(s, 29, 5), 0);
+                due("22: all 0 again", b.write(s, 0, 5), 0);
             }
         }
         due("22: an empty one", b.sheet(0, 0, 0), 0);
@@ -838,6 +869,10 @@ public final class PromisesTest {
         due("25: 98", b.sessions(3, 98), NONE);
         due("25: 1000", b.sessions(3, 1000), 1);
         due("25: another VOICE", b.sessions(2, 1), 0);
+        b.scene(0, 0);
+        b.choice(0, 0, 0);
+        b.line(0, 0, 2, 2);
+        due("25: the first CHOICE of all", b.sessions(2, 2), 1);
         b.line(17, 5, 80, 0);
         due("25: one less", b.sessions(3, 98), NONE);
         b.line(17, 4, 99, 0);
@@ -973,6 +1008,7 @@ public final class PromisesTest {
         // The tape has a 'd'.
         b.choice(0, 1, 3);
         b.start(9);
+        due("31: states before", b.states(0), 2);
         due("31: one comes", b.melt(), 1);
         due("31: both hands' CHOICES", b.of(0, 5), 3);
         due("31: all of it", b.about(0, 0, 3) * 100L + b.about(0, 0, 5), 140);
@@ -1022,6 +1058,13 @@ public final class PromisesTest {
         b.choice(2, 5, 0);
         due("31: SCENE and CHOICE go", b.melt(), 2);
         due("31: ours goes with them", b.count(1), 2);
+        b.keep(0);
+        b.scene(0, -1);
+        b.keep(1);
+        b.back(0);
+        b.choice(0, 0, 0);
+        due("31: the first SCENE goes", b.melt(), 1);
+        due("31: and ours with it", b.count(1), 2);
     }
 
     private static void meltOfNeeds() {
@@ -1048,6 +1091,16 @@ public final class PromisesTest {
         Tales.scene(b, 0, 1, "b&a");
         due("31: theirs alone", b.melt(), 1);
         due("31: theirs", b.of(0, 2), 2);
+        for (String rest : new String[] {"&!g&!h", "&g&!h", "&!g&h", "&g&h"}) {
+            TaleBench c = new TaleBench();
+            Tales.scene(c, 0, 1, "0");
+            c.keep(0);
+            Tales.scene(c, 0, 1, "a" + rest);
+            c.keep(1);
+            Tales.scene(c, 0, 1, "b" + rest);
+            due("31: " + rest, c.clash(0), 0);
+            due("31: " + rest, c.back(0) * 10L + c.melt(), 11);
+        }
     }
 
     private static void p32Clash() {
