@@ -1,7 +1,18 @@
 /** Counts the answers that were looked at, and prints those that are not due. */
 final class Check {
+    private static final int MOST_MINUTES = 10;
+
+    /** A class that is wrong everywhere need not be told so at length. */
+    private static final int MOST_TOLD = 30;
+
     private static int looked;
     private static int wrong;
+
+    static {
+        Thread watch = new Thread(Check::giveUp);
+        watch.setDaemon(true);
+        watch.start();
+    }
 
     private Check() {
     }
@@ -11,8 +22,7 @@ final class Check {
         if (got == want) {
             return true;
         }
-        wrong++;
-        System.out.println(call + " answered " + got + ", due is " + want);
+        tell(call + " answered " + got + ", due is " + want);
         return false;
     }
 
@@ -21,9 +31,27 @@ final class Check {
         if (got.equals(want)) {
             return true;
         }
-        wrong++;
-        System.out.println(call + " answered\n" + got + "\ndue is\n" + want);
+        tell(call + " answered\n" + got + "\ndue is\n" + want);
         return false;
+    }
+
+    private static void tell(String fault) {
+        System.out.println(fault);
+        wrong++;
+        if (wrong == MOST_TOLD) {
+            end("given up");
+        }
+    }
+
+    /** A call that does not end is a fault, too. */
+    private static void giveUp() {
+        try {
+            Thread.sleep(MOST_MINUTES * 60_000L);
+        } catch (InterruptedException e) {
+            return;
+        }
+        System.out.println("no end after " + MOST_MINUTES + " minutes");
+        Runtime.getRuntime().halt(1);
     }
 
     /** Ends the test, with exit code 1 if an answer was wrong. */

@@ -1,15 +1,10 @@
-/** Each promise of the document: ordinary inputs, the edges that it names, each of its findings. */
+/** Each promise of the document in tales as they are told; the edges of each of its sentences are in EdgesTest. */
 public final class PromisesTest {
-    private static final int BAD = Tales.BAD;
-    private static final int NONE = Tales.NONE;
-    private static final int CLASHED = Tales.CLASHED;
-    private static final int NOTHING = Tales.NOTHING;
-    private static final int PLACE = Tales.PLACE;
-    private static final int SORT = Tales.SORT;
-    private static final int SIZE = Tales.SIZE;
-    private static final int[] NO_SCENES = {-1, 20, Integer.MIN_VALUE, Integer.MAX_VALUE};
-    private static final int[] NO_CHOICES = {-1, 6, Integer.MIN_VALUE, Integer.MAX_VALUE};
-    private static final int[] NO_SETS = {-1, 256, Integer.MIN_VALUE, Integer.MAX_VALUE};
+    private static final int BAD = Edges.BAD;
+    private static final int NONE = Edges.NONE;
+    private static final int CLASHED = Edges.CLASHED;
+    private static final int NOTHING = Edges.NOTHING;
+    private static final int PLACE = Edges.PLACE;
 
     private static void due(String call, long got, long want) {
         Check.due(call, got, want);
@@ -48,9 +43,6 @@ public final class PromisesTest {
         due("2: 100", b.feed(0, 4), 100);
         due("2: 101 again", b.feed(0, 1), BAD);
         due("2: still 100", b.count(2), 100);
-        for (int n : new int[] {0, 9, -1, Integer.MIN_VALUE, Integer.MAX_VALUE}) {
-            Tales.finding("2: feed(w, " + n + ")", BAD, x -> x.feed(97, n));
-        }
     }
 
     private static void p3Scene() {
@@ -83,90 +75,6 @@ public final class PromisesTest {
         due("3: no need, no text", b.scene(19, 3), 0);
         Tales.feed(b, "nonsense");
         due("3: no need, no text", b.scene(19, 0), 3);
-        for (int s : NO_SCENES) {
-            Tales.findingAndEmptyTape("3: scene(" + s + ", 0)", BAD, x -> x.scene(s, 0));
-        }
-        for (int kind : new int[] {-2, 5, Integer.MIN_VALUE, Integer.MAX_VALUE}) {
-            Tales.findingAndEmptyTape("3: scene(0, " + kind + ")", BAD, x -> x.scene(0, kind));
-        }
-        for (int kind : new int[] {1, 2, 4}) {
-            Tales.findingAndEmptyTape("3: scene(1, " + kind + "), d&", -1102, x -> Tales.scene(x, 1, kind, "&"));
-        }
-        Tales.findingAndEmptyTape("3: BAD ahead of WRONG", BAD, x -> Tales.scene(x, 20, 1, "&"));
-    }
-
-    private static void wrong(String text, int place) {
-        TaleBench b = new TaleBench();
-        due("text " + text, Tales.scene(b, 0, 1, text), -1100 - place);
-        due("text " + text + ", then of(0, 0)", b.of(0, 0), -1);
-        b.scene(0, 0);
-        due("text of a choice " + text, Tales.choice(b, 0, 0, 0, text), -1100 - place);
-        due("text of a choice " + text + ", then of(0, 5)", b.of(0, 5), 0);
-    }
-
-    private static void right(String text, int reads, int holds) {
-        TaleBench b = new TaleBench();
-        due("text " + text, Tales.scene(b, 0, 4, text), -1);
-        due("text " + text + " reads", b.of(0, 2), reads);
-        due("text " + text + " holds", b.of(0, 3), holds);
-        due("text of a choice " + text, Tales.choice(b, 0, 5, 19, text), 0);
-        due("text of a choice " + text + " reads", b.about(0, 5, 1), reads);
-        due("text of a choice " + text + " holds", b.about(0, 5, 2), holds);
-    }
-
-    private static void texts() {
-        for (int f = 0; f < 8; f++) {
-            right("" + (char) ('a' + f), 1 << f, 128);
-            right("!" + (char) ('a' + f), 1 << f, 128);
-        }
-        right("0", 0, 0);
-        right("1", 0, 256);
-        right("a&b|c", 7, 160);
-        right("c|a&b", 7, 160);
-        right("a&(b|c)", 7, 96);
-        right("!a&b", 3, 64);
-        right("!(a&b)", 3, 192);
-        right("a|!a", 0, 256);
-        right("a&b|a&!b", 1, 128);
-        right("g&h", 192, 64);
-        right("g|a&h", 193, 160);
-        right("a&b&c&d&e&f&g&h", 255, 1);
-        right("a|b|c|d|e|f|g|h", 255, 255);
-        right("!!!!!!!!!!!!a", 1, 128);
-        right("((((((((((((a))))))))))))", 1, 128);
-        right("!(!(!(!(!(!(a))))))&!(!(!(!(!(!(b))))))", 3, 64);
-        right("a|".repeat(29) + "!b", 3, 192);
-        wrong("!!!!!!!!!!!!!a", 12);
-        wrong("(((((((((((((a)))))))))))))", 12);
-        wrong("!(!(!(!(!(!(!a))))))", 12);
-        wrong("!(!(!(!(!(!((a))))))", 12);
-        wrong("!!!!!!!!!!!!(a)", 12);
-        wrong("a&!!!!!!!!!!!!!a", 14);
-        wrong("!", 1);
-        wrong("(", 1);
-        wrong("(a", 2);
-        wrong("(a&", 3);
-        wrong("a|", 2);
-        wrong("!!!!!!!!!!!!", 12);
-        for (String sign : new String[] {"i", "`", "A", "2", "/", ")", "&", "|", " ", "\0", "\u0080", "\u00e1", "\u00ff"}) {
-            wrong(sign, 0);
-            wrong("a&" + sign, 2);
-            wrong("(" + sign, 1);
-            wrong("!" + sign + "a", 1);
-        }
-        for (String sign : new String[] {"i", "a", "0", "1", "!", "(", ")", "\0", "\u00ff"}) {
-            wrong("a" + sign, 1);
-            wrong("(b)" + sign, 3);
-        }
-        wrong("(a(", 2);
-        wrong("(a!", 2);
-        wrong("a||b", 2);
-        wrong("a)&(", 1);
-        wrong("a|".repeat(30), 60);
-        wrong("a|".repeat(30) + "a", 60);
-        wrong("i" + "a|".repeat(30), 60);
-        wrong("!".repeat(100), 60);
-        wrong("i" + "a".repeat(59), 0);
     }
 
     private static void p4Loss() {
@@ -183,18 +91,6 @@ public final class PromisesTest {
         due("4: a is lost", b.states(0), 2);
         b.loss(7, 4);
         due("4: a is not lost any more", b.states(0), 3);
-        for (int s : NO_SCENES) {
-            Tales.finding("4: loss(" + s + ", 1)", BAD, x -> x.loss(s, 1));
-        }
-        for (int set : NO_SETS) {
-            Tales.finding("4: loss(2, " + set + ")", BAD, x -> x.loss(2, set));
-            Tales.finding("4: BAD ahead of SORT", BAD, x -> x.loss(0, set));
-            Tales.finding("4: BAD ahead of NOTHING", BAD, x -> x.loss(9, set));
-        }
-        Tales.finding("4: loss of none", NOTHING, x -> x.loss(9, 1));
-        for (int s : new int[] {0, 1, 3, 4}) {
-            Tales.finding("4: loss of another KIND", SORT, x -> x.loss(s, 1));
-        }
     }
 
     private static void p5Choice() {
@@ -211,18 +107,6 @@ public final class PromisesTest {
         for (int what = 0; what < 7; what++) {
             due("5: fresh, about(0, 5, " + what + ")", b.about(0, 5, what), fresh[what]);
         }
-        for (int s : NO_SCENES) {
-            Tales.findingAndEmptyTape("5: choice(" + s + ", ..)", BAD, x -> x.choice(s, 0, 0));
-            Tales.findingAndEmptyTape("5: choice to " + s, BAD, x -> x.choice(0, 0, s));
-            Tales.findingAndEmptyTape("5: BAD ahead of NOTHING", BAD, x -> x.choice(9, 0, s));
-        }
-        for (int k : NO_CHOICES) {
-            Tales.findingAndEmptyTape("5: choice(0, " + k + ")", BAD, x -> x.choice(0, k, 0));
-        }
-        Tales.findingAndEmptyTape("5: of none", NOTHING, x -> x.choice(9, 0, 0));
-        Tales.findingAndEmptyTape("5: NOTHING ahead of WRONG", NOTHING, x -> Tales.choice(x, 9, 0, 0, "&"));
-        Tales.findingAndEmptyTape("5: WRONG", -1101, x -> Tales.choice(x, 0, 0, 0, "i"));
-        Tales.findingAndEmptyTape("5: BAD ahead of WRONG", BAD, x -> Tales.choice(x, 0, 6, 0, "i"));
     }
 
     private static void p6Gives() {
@@ -234,20 +118,6 @@ public final class PromisesTest {
         due("6: TAKES", b.about(0, 0, 4), 0xf0);
         due("6: gives all", b.gives(0, 0, 255, 0), 1);
         due("6: TAKES none", b.about(0, 0, 4), 0);
-        for (int s : NO_SCENES) {
-            Tales.finding("6: gives(" + s + ")", BAD, x -> x.gives(s, 0, 1, 2));
-        }
-        for (int k : NO_CHOICES) {
-            Tales.finding("6: gives(0, " + k + ")", BAD, x -> x.gives(0, k, 1, 2));
-        }
-        for (int set : NO_SETS) {
-            Tales.finding("6: gives " + set, BAD, x -> x.gives(0, 0, set, 0));
-            Tales.finding("6: takes " + set, BAD, x -> x.gives(0, 0, 0, set));
-        }
-        Tales.finding("6: in both", BAD, x -> x.gives(0, 0, 3, 6));
-        Tales.finding("6: in both ahead of NOTHING", BAD, x -> x.gives(0, 1, 1, 1));
-        Tales.finding("6: no CHOICE", NOTHING, x -> x.gives(0, 1, 1, 2));
-        Tales.finding("6: no SCENE", NOTHING, x -> x.gives(9, 0, 1, 2));
     }
 
     private static void p7Line() {
@@ -259,21 +129,6 @@ public final class PromisesTest {
         due("7: VOICE", b.about(0, 0, 6), 3);
         due("7: line again", b.line(0, 0, 0, 0), 1);
         due("7: no WORDS", b.about(0, 0, 5), 0);
-        for (int s : NO_SCENES) {
-            Tales.finding("7: line(" + s + ")", BAD, x -> x.line(s, 0, 1, 1));
-        }
-        for (int k : NO_CHOICES) {
-            Tales.finding("7: line(0, " + k + ")", BAD, x -> x.line(0, k, 1, 1));
-        }
-        for (int words : new int[] {-1, 100, Integer.MIN_VALUE, Integer.MAX_VALUE}) {
-            Tales.finding("7: words " + words, BAD, x -> x.line(0, 0, words, 1));
-        }
-        for (int voice : new int[] {-1, 4, Integer.MIN_VALUE, Integer.MAX_VALUE}) {
-            Tales.finding("7: voice " + voice, BAD, x -> x.line(0, 0, 1, voice));
-            Tales.finding("7: BAD ahead of NOTHING", BAD, x -> x.line(0, 1, 1, voice));
-        }
-        Tales.finding("7: no CHOICE", NOTHING, x -> x.line(0, 1, 1, 1));
-        Tales.finding("7: no SCENE", NOTHING, x -> x.line(9, 1, 1, 1));
     }
 
     private static void p8Drop() {
@@ -286,12 +141,6 @@ public final class PromisesTest {
         due("8: fresh web", b.open(0, 3), 1);
         b.drop(0, 3);
         due("8: stuck", b.states(0), 1);
-        for (int s : NO_SCENES) {
-            Tales.finding("8: drop(" + s + ", 0)", BAD, x -> x.drop(s, 0));
-        }
-        for (int k : NO_CHOICES) {
-            Tales.finding("8: drop(0, " + k + ")", BAD, x -> x.drop(0, k));
-        }
     }
 
     private static void p9Start() {
@@ -303,9 +152,6 @@ public final class PromisesTest {
         b.scene(0, 0);
         b.play();
         due("9: facts", b.at(1), 6);
-        for (int set : NO_SETS) {
-            Tales.finding("9: start(" + set + ")", BAD, x -> x.start(set));
-        }
     }
 
     private static void p10Of() {
@@ -320,17 +166,6 @@ public final class PromisesTest {
         b.cut(9, true);
         due("10: KIND of none", b.of(9, 0), -1);
         due("10: none that is CUT", b.of(9, 1), 1);
-        for (int what = 2; what < 6; what++) {
-            int w = what;
-            Tales.finding("10: of none", NOTHING, x -> x.of(9, w));
-        }
-        for (int what : new int[] {-1, 6, Integer.MIN_VALUE, Integer.MAX_VALUE}) {
-            Tales.finding("10: of(0, " + what + ")", BAD, x -> x.of(0, what));
-            Tales.finding("10: of(9, " + what + ")", BAD, x -> x.of(9, what));
-        }
-        for (int s : NO_SCENES) {
-            Tales.finding("10: of(" + s + ", 0)", BAD, x -> x.of(s, 0));
-        }
     }
 
     private static void p11About() {
@@ -341,18 +176,6 @@ public final class PromisesTest {
             due("11: about(0, 0, " + what + ")", b.about(0, 0, what), want[what]);
             due("11: about(0, 3, " + what + ")", b.about(0, 3, what), second[what]);
         }
-        for (int what : new int[] {-1, 7, Integer.MIN_VALUE, Integer.MAX_VALUE}) {
-            Tales.finding("11: about(0, 0, " + what + ")", BAD, x -> x.about(0, 0, what));
-            Tales.finding("11: about(0, 1, " + what + ")", BAD, x -> x.about(0, 1, what));
-        }
-        for (int s : NO_SCENES) {
-            Tales.finding("11: about(" + s + ")", BAD, x -> x.about(s, 0, 0));
-        }
-        for (int k : NO_CHOICES) {
-            Tales.finding("11: about(0, " + k + ")", BAD, x -> x.about(0, k, 0));
-        }
-        Tales.finding("11: no CHOICE", NOTHING, x -> x.about(0, 1, 0));
-        Tales.finding("11: no SCENE", NOTHING, x -> x.about(9, 1, 0));
     }
 
     /**
@@ -414,9 +237,6 @@ public final class PromisesTest {
             due("12: no BEGINNING, CUT", b.states(what), 0);
         }
         pairsWithoutDeadFacts();
-        for (int what : new int[] {-1, 5, Integer.MIN_VALUE, Integer.MAX_VALUE}) {
-            Tales.finding("12: states(" + what + ")", BAD, x -> x.states(what));
-        }
     }
 
     private static void pairsWithoutDeadFacts() {
@@ -449,9 +269,6 @@ public final class PromisesTest {
         due("13: CUT", b.reached(4), 0);
         due("13: nor behind it", b.reached(5), 0);
         due("13: not there", b.reached(19), 0);
-        for (int s : NO_SCENES) {
-            Tales.finding("13: reached(" + s + ")", BAD, x -> x.reached(s));
-        }
     }
 
     private static void p14Live() {
@@ -473,10 +290,6 @@ public final class PromisesTest {
         due("14: none at a PRIZE", b.live(0), 0);
         liveNoMore();
         liveThroughNeeds();
-        for (int s : NO_SCENES) {
-            Tales.finding("14: live(" + s + ")", BAD, x -> x.live(s));
-        }
-        Tales.finding("14: live at none", NOTHING, x -> x.live(9));
     }
 
     private static void liveNoMore() {
@@ -538,14 +351,6 @@ public final class PromisesTest {
         due("15: both gates", b.open(0, 1) * 10L + b.open(1, 0), 11);
         b.scene(0, 3);
         due("15: of an ending", b.open(0, 0), 0);
-        for (int s : NO_SCENES) {
-            Tales.finding("15: open(" + s + ")", BAD, x -> x.open(s, 0));
-        }
-        for (int k : NO_CHOICES) {
-            Tales.finding("15: open(0, " + k + ")", BAD, x -> x.open(0, k));
-        }
-        Tales.finding("15: no CHOICE", NOTHING, x -> x.open(0, 1));
-        Tales.finding("15: no SCENE", NOTHING, x -> x.open(9, 1));
         openBeforeLoss();
     }
 
@@ -582,7 +387,6 @@ public final class PromisesTest {
         due("16: CHOICE 0 of SCENE 0", b.trap(0), 0);
         b.drop(2, 0);
         due("16: all is past hope", b.trap(0), NONE);
-        Tales.finding("16: none", NONE, x -> x.trap(5));
     }
 
     private static void p17Way() {
@@ -593,11 +397,6 @@ public final class PromisesTest {
         }
         b.start(1);
         due("17: the gate is open", b.way(3), 2);
-        for (int s : NO_SCENES) {
-            Tales.finding("17: way(" + s + ")", BAD, x -> x.way(s));
-        }
-        Tales.finding("17: none REACHED", NONE, x -> x.way(4));
-        Tales.finding("17: none there", NONE, x -> x.way(9));
     }
 
     private static void p18Step() {
@@ -612,13 +411,6 @@ public final class PromisesTest {
         due("18: far behind", b.step(5, Integer.MAX_VALUE), -1);
         due("18: no way is needed", b.step(0, 0), -1);
         lesserFirst();
-        for (int s : NO_SCENES) {
-            Tales.finding("18: step(" + s + ", 0)", BAD, x -> x.step(s, 0));
-        }
-        Tales.finding("18: step(0, -1)", BAD, x -> x.step(0, -1));
-        Tales.finding("18: step(4, least)", BAD, x -> x.step(4, Integer.MIN_VALUE));
-        Tales.finding("18: none REACHED", NONE, x -> x.step(4, 0));
-        Tales.finding("18: none there", NONE, x -> x.step(9, 99));
     }
 
     /** Two ways as short as each other: the first difference counts, not the SCENES, nor the FACTS. */
@@ -661,9 +453,6 @@ public final class PromisesTest {
         many.scene(0, 3);
         due("19: THE BEGINNING is an ending", many.ways(0), 1);
         due("19: and leads nowhere", many.ways(1), 0);
-        for (int n : new int[] {-1, 21, Integer.MIN_VALUE, Integer.MAX_VALUE}) {
-            Tales.finding("19: ways(" + n + ")", BAD, x -> x.ways(n));
-        }
     }
 
     private static void p20Cut() {
@@ -681,10 +470,6 @@ public final class PromisesTest {
         due("20: not there, but CUT", b.cut(19, true), 0);
         due("20: then there", b.scene(19, 0), -1);
         due("20: and CUT", b.of(19, 1), 1);
-        for (int s : NO_SCENES) {
-            Tales.finding("20: cut(" + s + ")", BAD, x -> x.cut(s, true));
-            Tales.finding("20: cut(" + s + ")", BAD, x -> x.cut(s, false));
-        }
     }
 
     private static void p21Mend() {
@@ -705,7 +490,6 @@ public final class PromisesTest {
         b.cut(0, true);
         due("21: no BEGINNING", b.mend(), NONE);
         fewestFactsFirst();
-        Tales.findingAfter("21: none", NONE, x -> x.cut(2, true), x -> x.mend());
     }
 
     private static void fewestFactsFirst() {
@@ -747,21 +531,6 @@ public final class PromisesTest {
         }
         due("22: an empty one", b.sheet(0, 0, 0), 0);
         due("22: is not MISSING", b.write(0, 0, 1), PLACE);
-        for (int s : new int[] {-1, 4, Integer.MIN_VALUE, Integer.MAX_VALUE}) {
-            Tales.finding("22: sheet(" + s + ")", BAD, x -> x.sheet(s, 0, 1));
-            Tales.finding("22: BAD ahead of SIZE", BAD, x -> x.sheet(s, 0, -1));
-        }
-        for (int sort : new int[] {-1, 3, Integer.MIN_VALUE, Integer.MAX_VALUE}) {
-            Tales.finding("22: sort " + sort, BAD, x -> x.sheet(0, sort, 1));
-            Tales.finding("22: BAD ahead of SIZE", BAD, x -> x.sheet(0, sort, -1));
-        }
-        for (int n : new int[] {31, 1000, Integer.MAX_VALUE}) {
-            Tales.finding("22: n " + n, BAD, x -> x.sheet(0, 0, n));
-        }
-        for (int n : new int[] {-1, Integer.MIN_VALUE}) {
-            Tales.finding("22: n " + n, SIZE, x -> x.sheet(0, 0, n));
-            Tales.finding("22: one that is MISSING stays so", SIZE, x -> x.sheet(3, 0, n));
-        }
     }
 
     private static void p23Write() {
@@ -783,14 +552,6 @@ public final class PromisesTest {
             due("23: the other number", b.write(sort, 0, 0), 0);
         }
         due("23: a number like a finding is none", b.count(4), 0);
-        for (int s : new int[] {-1, 4, Integer.MIN_VALUE, Integer.MAX_VALUE}) {
-            Tales.finding("23: write(" + s + ")", BAD, x -> x.write(s, 0, 1));
-        }
-        Tales.finding("23: MISSING", NOTHING, x -> x.write(3, 0, 1));
-        Tales.finding("23: MISSING ahead of PLACE", NOTHING, x -> x.write(3, -1, 1));
-        for (int i : new int[] {-1, 3, 30, Integer.MIN_VALUE, Integer.MAX_VALUE}) {
-            Tales.finding("23: place " + i, PLACE, x -> x.write(0, i, 1));
-        }
     }
 
     private static void p24Words() {
@@ -820,21 +581,6 @@ public final class PromisesTest {
         due("24: round the numbers' end", b.words(5, 1, 2, Integer.MAX_VALUE), PLACE);
         due("24: count(4)", b.count(4), 3);
         wordsOfSorts();
-        for (int s : NO_SCENES) {
-            Tales.finding("24: words(" + s + ")", BAD, x -> x.words(s, 0, 0, 0));
-        }
-        for (int s : new int[] {-1, 4, Integer.MIN_VALUE, Integer.MAX_VALUE}) {
-            Tales.finding("24: SHEET " + s, BAD, x -> x.words(9, s, 0, 0));
-        }
-        for (int sort : new int[] {-1, 3, Integer.MIN_VALUE, Integer.MAX_VALUE}) {
-            Tales.finding("24: sort " + sort, BAD, x -> x.words(9, 3, sort, 0));
-        }
-        Tales.finding("24: no SCENE", NOTHING, x -> x.words(9, 0, 1, -1));
-        Tales.finding("24: MISSING", NOTHING, x -> x.words(0, 3, 0, -1));
-        Tales.finding("24: another SORT", SORT, x -> x.words(0, 0, 1, -1));
-        Tales.finding("24: another SORT, none asked for", SORT, x -> x.words(1, 2, 0, 0));
-        Tales.finding("24: none for CHOICE 3", PLACE, x -> x.words(0, 0, 0, 0));
-        Tales.finding("24: none for CHOICE 0", PLACE, x -> x.words(0, 0, 0, -1));
     }
 
     private static void wordsOfSorts() {
@@ -880,13 +626,6 @@ public final class PromisesTest {
         due("25: VOICE 0", b.sessions(0, 99), 2);
         due("25: a line that is dropped", b.drop(17, 4) * 10L + b.sessions(0, 99), 11);
         due("25: a SCENE that is not there", b.scene(17, -1) * 10L + b.sessions(0, 99), 0);
-        for (int voice : new int[] {-1, 4, Integer.MIN_VALUE, Integer.MAX_VALUE}) {
-            Tales.finding("25: voice " + voice, BAD, x -> x.sessions(voice, 1));
-        }
-        for (int most : new int[] {0, -1, 1001, Integer.MIN_VALUE, Integer.MAX_VALUE}) {
-            Tales.finding("25: most " + most, BAD, x -> x.sessions(0, most));
-        }
-        Tales.finding("25: one has more", NONE, x -> x.sessions(2, 40));
     }
 
     private static void p26Tell() {
@@ -949,9 +688,6 @@ public final class PromisesTest {
         b.start(0);
         b.scene(0, -1);
         due("28: as it was played", b.at(1), 255);
-        for (int what : new int[] {-1, 2, Integer.MIN_VALUE, Integer.MAX_VALUE}) {
-            Tales.finding("28: at(" + what + ")", BAD, x -> x.at(what));
-        }
     }
 
     private static void p29Keep() {
@@ -968,9 +704,6 @@ public final class PromisesTest {
             due("29: a CHOICE of its own", b.about(0, 0, 5) * 100L + b.about(0, 0, 3), 4001);
             due("29: a SCENE of its own", b.of(2, 4) * 100L + b.of(4, 0), 604);
             due("29: THE START", b.count(5), 8);
-        }
-        for (int which : new int[] {-1, 2, Integer.MIN_VALUE, Integer.MAX_VALUE}) {
-            Tales.finding("29: keep(" + which + ")", BAD, x -> x.keep(which));
         }
     }
 
@@ -989,9 +722,6 @@ public final class PromisesTest {
         due("30: what is kept stays", b.count(5) * 10L + b.count(0), 85);
         due("30: CUT all the same", b.of(4, 1), 1);
         due("30: what waits waits", b.count(3), 2);
-        for (int which : new int[] {-1, 2, Integer.MIN_VALUE, Integer.MAX_VALUE}) {
-            Tales.finding("30: back(" + which + ")", BAD, x -> x.back(which));
-        }
         TaleBench none = new TaleBench();
         none.start(3);
         none.keep(0);
@@ -1016,7 +746,6 @@ public final class PromisesTest {
         due("31: states anew", b.states(0), 3);
         meltOfScenes();
         meltOfNeeds();
-        Tales.findingAfter("31: CLASHED", CLASHED, x -> x.line(0, 0, 41, 2), x -> x.melt());
         TaleBench none = new TaleBench();
         due("31: none is kept", none.melt(), NOTHING);
         none.keep(0);
@@ -1141,7 +870,6 @@ public final class PromisesTest {
         due("32: not there is a way to differ", b.clash(5), 139);
         b.back(1);
         due("32: no more", b.clash(0), NONE);
-        Tales.finding("32: none", NONE, x -> x.clash(0));
         TaleBench none = new TaleBench();
         none.keep(1);
         due("32: THE BASE is not kept", none.clash(-1), NOTHING);
@@ -1167,16 +895,12 @@ public final class PromisesTest {
         Tales.scene(b, 0, 1, "i");
         b.count(6);
         due("33: no other finding", b.count(4), 4);
-        for (int what : new int[] {-1, 6, Integer.MIN_VALUE, Integer.MAX_VALUE}) {
-            Tales.finding("33: count(" + what + ")", BAD, x -> x.count(what));
-        }
     }
 
     public static void main(String[] args) {
         p1NewObject();
         p2Feed();
         p3Scene();
-        texts();
         p4Loss();
         p5Choice();
         p6Gives();

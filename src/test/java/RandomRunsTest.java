@@ -2,12 +2,7 @@ import java.util.Random;
 
 /** Random runs of calls, the same at each time, on the class and on the oracle at once. */
 public final class RandomRunsTest {
-    private static final String[] NAMES = {
-        "feed", "scene", "loss", "choice", "gives", "line", "drop", "start", "of", "about", "states", "reached", "live",
-        "open", "trap", "way", "step", "ways", "cut", "mend", "sheet", "write", "words", "sessions", "tell", "play",
-        "at", "keep", "back", "melt", "clash", "count"
-    };
-    /** How often each call is made, in the order of the names; texts are fed in their own way. */
+    /** How often each call is made, in the order of Calls.NAMES; texts are fed in their own way. */
     private static final int[][] WEIGHTS = {
         {1, 8, 3, 14, 8, 4, 1, 2, 3, 3, 6, 3, 3, 3, 4, 3, 5, 3, 2, 2, 1, 2, 2, 2, 8, 2, 2, 1, 1, 1, 1, 2},
         {1, 3, 1, 5, 3, 3, 2, 1, 2, 2, 1, 0, 0, 0, 0, 0, 0, 0, 1, 0, 1, 1, 2, 1, 1, 1, 1, 4, 4, 6, 5, 2},
@@ -99,17 +94,14 @@ public final class RandomRunsTest {
     private void feedText(String text) {
         for (int i = 0; i < text.length(); i += 8) {
             int n = Math.min(8, text.length() - i);
-            long w = random.nextBoolean() ? 0 : random.nextLong();
-            for (int j = 0; j < n; j++) {
-                w = w & ~(255L << 8 * j) | (long) (text.charAt(i + j) & 255) << 8 * j;
-            }
-            call("feed", w, n);
+            long rest = random.nextBoolean() ? 0 : random.nextLong();
+            call("feed", Tales.bytes(text, i, n, rest), n);
         }
     }
 
     private void call(String name, long... a) {
-        long got = onBench(name, a);
-        long want = onOracle(name, a);
+        long got = Calls.onBench(bench, name, a);
+        long want = Calls.onOracle(oracle, name, a);
         told.append(name).append(java.util.Arrays.toString(a)).append(" = ").append(want).append('\n');
         if (Check.due(told.length() > 30000 ? name : name + java.util.Arrays.toString(a), got, want)) {
             return;
@@ -129,7 +121,7 @@ public final class RandomRunsTest {
             pick -= weights[which];
             which++;
         }
-        make(NAMES[which]);
+        make(Calls.NAMES[which]);
     }
 
     private void make(String name) {
@@ -176,88 +168,6 @@ public final class RandomRunsTest {
             case "count" -> call(name, number(6, 6));
             default -> call(name);
         }
-    }
-
-    private long onBench(String name, long[] a) {
-        int x = a.length > 0 ? (int) a[0] : 0;
-        int y = a.length > 1 ? (int) a[1] : 0;
-        int z = a.length > 2 ? (int) a[2] : 0;
-        int u = a.length > 3 ? (int) a[3] : 0;
-        return switch (name) {
-            case "feed" -> bench.feed(a[0], y);
-            case "scene" -> bench.scene(x, y);
-            case "loss" -> bench.loss(x, y);
-            case "choice" -> bench.choice(x, y, z);
-            case "gives" -> bench.gives(x, y, z, u);
-            case "line" -> bench.line(x, y, z, u);
-            case "drop" -> bench.drop(x, y);
-            case "start" -> bench.start(x);
-            case "of" -> bench.of(x, y);
-            case "about" -> bench.about(x, y, z);
-            case "states" -> bench.states(x);
-            case "reached" -> bench.reached(x);
-            case "live" -> bench.live(x);
-            case "open" -> bench.open(x, y);
-            case "trap" -> bench.trap(x);
-            case "way" -> bench.way(x);
-            case "step" -> bench.step(x, y);
-            case "ways" -> bench.ways(x);
-            case "cut" -> bench.cut(x, y != 0);
-            case "mend" -> bench.mend();
-            case "sheet" -> bench.sheet(x, y, z);
-            case "write" -> bench.write(x, y, z);
-            case "words" -> bench.words(x, y, z, u);
-            case "sessions" -> bench.sessions(x, y);
-            case "tell" -> bench.tell(x);
-            case "play" -> bench.play();
-            case "at" -> bench.at(x);
-            case "keep" -> bench.keep(x);
-            case "back" -> bench.back(x);
-            case "melt" -> bench.melt();
-            case "clash" -> bench.clash(x);
-            default -> bench.count(x);
-        };
-    }
-
-    private long onOracle(String name, long[] a) {
-        int x = a.length > 0 ? (int) a[0] : 0;
-        int y = a.length > 1 ? (int) a[1] : 0;
-        int z = a.length > 2 ? (int) a[2] : 0;
-        int u = a.length > 3 ? (int) a[3] : 0;
-        return switch (name) {
-            case "feed" -> oracle.feed(a[0], y);
-            case "scene" -> oracle.scene(x, y);
-            case "loss" -> oracle.loss(x, y);
-            case "choice" -> oracle.choice(x, y, z);
-            case "gives" -> oracle.gives(x, y, z, u);
-            case "line" -> oracle.line(x, y, z, u);
-            case "drop" -> oracle.drop(x, y);
-            case "start" -> oracle.start(x);
-            case "of" -> oracle.of(x, y);
-            case "about" -> oracle.about(x, y, z);
-            case "states" -> oracle.states(x);
-            case "reached" -> oracle.reached(x);
-            case "live" -> oracle.live(x);
-            case "open" -> oracle.open(x, y);
-            case "trap" -> oracle.trap(x);
-            case "way" -> oracle.way(x);
-            case "step" -> oracle.step(x, y);
-            case "ways" -> oracle.ways(x);
-            case "cut" -> oracle.cut(x, y != 0);
-            case "mend" -> oracle.mend();
-            case "sheet" -> oracle.sheet(x, y, z);
-            case "write" -> oracle.write(x, y, z);
-            case "words" -> oracle.words(x, y, z, u);
-            case "sessions" -> oracle.sessions(x, y);
-            case "tell" -> oracle.tell(x);
-            case "play" -> oracle.play();
-            case "at" -> oracle.at(x);
-            case "keep" -> oracle.keep(x);
-            case "back" -> oracle.back(x);
-            case "melt" -> oracle.melt();
-            case "clash" -> oracle.clash(x);
-            default -> oracle.count(x);
-        };
     }
 
     /** Some tale first, then all kinds of calls. */
