@@ -5,23 +5,7 @@ import java.util.LinkedHashSet;
 import java.util.Set;
 
 /** Which sentence of the document is being tested, and the tests of calls that are refused. */
-final class Edges {
-    static final int BAD = -1002;
-    static final int NONE = -1003;
-    static final int CLASHED = -1004;
-    static final int NOTHING = -1010;
-    static final int PLACE = -1011;
-    static final int SORT = -1012;
-    static final int SIZE = -1013;
-    static final int WRONG = -1100;
-    static final int LEAST = Integer.MIN_VALUE;
-    static final int MOST = Integer.MAX_VALUE;
-    static final int[] NO_SCENES = {-1, 20, LEAST, MOST};
-    static final int[] NO_CHOICES = {-1, 6, LEAST, MOST};
-    static final int[] NO_SETS = {-1, 256, LEAST, MOST};
-    /** The number under which the sentences of the terms are told; those of a promise are told under its own. */
-    static final int TERMS = 0;
-
+final class Edges implements Findings {
     private static final Set<String> tested = new LinkedHashSet<>();
     private static String place = "";
 

@@ -1,15 +1,5 @@
 /** The sentences of the promises 26 to 33: play, hands. */
-final class HandEdges {
-    private static final int BAD = Edges.BAD;
-    private static final int NONE = Edges.NONE;
-    private static final int CLASHED = Edges.CLASHED;
-    private static final int NOTHING = Edges.NOTHING;
-    private static final int PLACE = Edges.PLACE;
-    private static final int SORT = Edges.SORT;
-    private static final int SIZE = Edges.SIZE;
-    private static final int WRONG = Edges.WRONG;
-    private static final int LEAST = Edges.LEAST;
-    private static final int MOST = Edges.MOST;
+final class HandEdges implements Findings {
     /** All but 0 and 1, as far as edges go. */
     private static final int[] NEITHER = {-1, 2, LEAST, MOST};
 
@@ -52,7 +42,7 @@ final class HandEdges {
         }
     }
 
-    /** SCENES 0 and 1 lead to one another by CHOICE 0, from 0 to the ENDING (2) by 5; 3 is behind it, but for nobody. */
+    /** SCENES 0 and 1 lead to one another by CHOICE 0, from 0 to the ENDING (2) by 5; nobody comes to 3 behind it. */
     private static Run toAndFro() {
         return new Run().does("scene", 0, 0).does("scene", 1, 0).does("scene", 2, 3).does("scene", 3, 0)
             .does("choice", 0, 0, 1).does("gives", 0, 0, 1, 0).does("choice", 1, 0, 0).does("choice", 0, 5, 2)
@@ -60,8 +50,8 @@ final class HandEdges {
     }
 
     private static void p27Play() {
-        Edges.says(27, "The numbers that wait (none do then, whatever is answered) are CHOICES that are played from THE "
-            + "BEGINNING on: how many are OPEN one behind the other, till the first one that is not");
+        Edges.says(27, "The numbers that wait (none do then, whatever is answered) are CHOICES that are played from "
+            + "THE BEGINNING on: how many are OPEN one behind the other, till the first one that is not");
         toAndFro().is(0, "play").is(0, "at", 0).is(0, "count", 3);
         for (int v : new int[] {-1, 6, LEAST, MOST, 1, 4}) {
             // No CHOICE, or not there: as the first, in the middle, as the last one.
@@ -158,8 +148,8 @@ final class HandEdges {
     }
 
     private static void p31Melt() {
-        Edges.says(31, "THE OTHER's changes come to THE TALE: each ITEM that differs there from THE BASE's is as in THE "
-            + "OTHER: how many of these were not so already");
+        Edges.says(31, "THE OTHER's changes come to THE TALE: each ITEM that differs there from THE BASE's is as in "
+            + "THE OTHER: how many of these were not so already");
         new Run().does("keep", 0).does("keep", 1).is(0, "melt").does("start", 5).is(0, "melt").is(5, "count", 5);
         // Ours: START, SCENE 1; theirs: SCENES 2 and 3, a CHOICE; both's: SCENE 4, told alike.
         Run run = new Run().does("scene", 0, 0).does("scene", 1, 0).does("scene", 2, 0).does("choice", 0, 0, 1)
@@ -170,7 +160,8 @@ final class HandEdges {
             .is(255, "of", 3, 4).are("about", new long[] {0, 0}, 2, 0, 256, 1, 0, 9, 1).is(3, "of", 4, 0)
             .is(2, "states", 0).is(1, "reached", 2).is(0, "melt")
             // Neither THE BASE nor THE OTHER has changed.
-            .is(1, "back", 1).is(0, "count", 5).is(0, "of", 1, 0).is(1, "back", 0).is(-1, "of", 3, 0).is(1, "about", 0, 0, 0);
+            .is(1, "back", 1).is(0, "count", 5).is(0, "of", 1, 0).is(1, "back", 0).is(-1, "of", 3, 0)
+            .is(1, "about", 0, 0, 0);
         new Run().scene(0, 1, "a").choice(0, 0, 0, "b").does("keep", 0).scene(0, 1, "c&h").choice(0, 0, 0, "d|!h")
             .does("keep", 1).scene(0, 1, "a").choice(0, 0, 0, "b").is(2, "melt").is(132, "of", 0, 2).is(64, "of", 0, 3)
             .is(136, "about", 0, 0, 1).is(192, "about", 0, 0, 2).is(140, "live", 0);
@@ -251,8 +242,8 @@ final class HandEdges {
     }
 
     private static void p33Count() {
-        Edges.says(33, "How many: 0 SCENES that are there, 1 CHOICES, 2 bytes of the tape, 3 numbers that wait, 4 findings "
-            + "of the host ever (NOTHING, PLACE, SORT, SIZE), 5 THE START");
+        Edges.says(33, "How many: 0 SCENES that are there, 1 CHOICES, 2 bytes of the tape, 3 numbers that wait, 4 "
+            + "findings of the host ever (NOTHING, PLACE, SORT, SIZE), 5 THE START");
         new Run().are("count", new long[0], 0, 0, 0, 0, 0, 0);
         World.FULL.made().are("count", new long[0], 5, 4, 1, 2, 2, 8);
         World.BRIM.made().are("count", new long[0], 5, 4, 100, 30, 2, 8);
@@ -273,8 +264,8 @@ final class HandEdges {
 
     /** Each call that answers a finding of the host, and none of the others, adds one to count(4). */
     private static void p33Findings() {
-        Edges.says(33, "How many: 0 SCENES that are there, 1 CHOICES, 2 bytes of the tape, 3 numbers that wait, 4 findings "
-            + "of the host ever (NOTHING, PLACE, SORT, SIZE), 5 THE START");
+        Edges.says(33, "How many: 0 SCENES that are there, 1 CHOICES, 2 bytes of the tape, 3 numbers that wait, 4 "
+            + "findings of the host ever (NOTHING, PLACE, SORT, SIZE), 5 THE START");
         Run run = World.FULL.made();
         long[] many = {2};
         counted(run, many, NOTHING, "loss", 9, 0);

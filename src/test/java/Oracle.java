@@ -99,7 +99,7 @@ final class Oracle {
         return wantsOne || !open.isEmpty() ? text.length() : -1;
     }
 
-    /** Whether a right text holds for a set: facts are put in, and what is told is told shorter till one sign is left. */
+    /** Whether a right text holds for a set: facts are put in, and it is told shorter till one sign is left. */
     static boolean holds(String text, int set) {
         StringBuilder b = new StringBuilder();
         for (char c : text.toCharArray()) {

@@ -1,11 +1,5 @@
 /** Each promise of the document in tales as they are told; the edges of each of its sentences are in EdgesTest. */
-public final class PromisesTest {
-    private static final int BAD = Edges.BAD;
-    private static final int NONE = Edges.NONE;
-    private static final int CLASHED = Edges.CLASHED;
-    private static final int NOTHING = Edges.NOTHING;
-    private static final int PLACE = Edges.PLACE;
-
+public final class PromisesTest implements Findings {
     private static void due(String call, long got, long want) {
         Check.due(call, got, want);
     }

@@ -1,11 +1,5 @@
 /** The sentences of the promises 1 to 11: needs, scenes, choices. */
-final class SceneEdges {
-    private static final int BAD = Edges.BAD;
-    private static final int NOTHING = Edges.NOTHING;
-    private static final int SORT = Edges.SORT;
-    private static final int WRONG = Edges.WRONG;
-    private static final int LEAST = Edges.LEAST;
-    private static final int MOST = Edges.MOST;
+final class SceneEdges implements Findings {
     /** In the worlds that something has been told to: a SCENE that is not there, a CHOICE that is not. */
     private static final int[] NOT_THERE = {5, 9, 19};
     private static final int[][] NO_CHOICE_THERE = {{0, 1}, {0, 5}, {1, 0}, {2, 0}, {3, 3}, {5, 0}, {9, 3}, {19, 5}};
@@ -59,8 +53,8 @@ final class SceneEdges {
         int[] holds = {128, 128, 64, 192, 160, 160, 16, 32};
         for (int n = 1; n <= 8; n++) {
             for (long rest : new long[] {0, -1}) {
-                new Run().is(n, "feed", Tales.bytes(texts[n - 1], 0, n, rest), n).is(-1, "scene", 0, 1).is(reads[n - 1], "of", 0, 2)
-                    .is(holds[n - 1], "of", 0, 3);
+                new Run().is(n, "feed", Tales.bytes(texts[n - 1], 0, n, rest), n).is(-1, "scene", 0, 1)
+                    .is(reads[n - 1], "of", 0, 2).is(holds[n - 1], "of", 0, 3);
             }
         }
         new Run().is(8, "feed", -1, 8).is(9, "feed", Long.MIN_VALUE, 1).is(17, "feed", Long.MAX_VALUE, 8)
@@ -80,8 +74,8 @@ final class SceneEdges {
     }
 
     private static void p3Scene() {
-        Edges.says(3, "SCENE s is of a KIND from now on (0 to 4; -1: it is not there, nor are its CHOICES): what it was, "
-            + "-1 for none");
+        Edges.says(3, "SCENE s is of a KIND from now on (0 to 4; -1: it is not there, nor are its CHOICES): what it "
+            + "was, -1 for none");
         for (int s : new int[] {0, 7, 19}) {
             for (int before = -1; before < 5; before++) {
                 for (int kind = -1; kind < 5; kind++) {
@@ -139,7 +133,7 @@ final class SceneEdges {
 
     private static void p3Refused() {
         Edges.says(3, "BAD: no such SCENE, KIND");
-        for (int s : Edges.NO_SCENES) {
+        for (int s : NO_SCENES) {
             for (int kind : new int[] {-1, 0, 4}) {
                 Edges.refused(BAD, "scene", s, kind);
             }
@@ -174,11 +168,11 @@ final class SceneEdges {
             .does("choice", 1, 0, 0).is(3, "states", 0).does("loss", 1, 1).is(2, "states", 0).does("loss", 1, 2)
             .is(3, "states", 0);
         Edges.says(4, "BAD: no such SCENE, or set is not 0 .. 255");
-        for (int s : Edges.NO_SCENES) {
+        for (int s : NO_SCENES) {
             Edges.refused(BAD, "loss", s, 0);
             Edges.refused(BAD, "loss", s, 256);
         }
-        for (int set : Edges.NO_SETS) {
+        for (int set : NO_SETS) {
             for (int s : new int[] {2, 0, 9}) {
                 Edges.refused(BAD, "loss", s, set);
             }
@@ -228,12 +222,12 @@ final class SceneEdges {
 
     private static void p5Refused() {
         Edges.says(5, "BAD: no such SCENE, CHOICE, or TO");
-        for (int s : Edges.NO_SCENES) {
+        for (int s : NO_SCENES) {
             Edges.refused(BAD, "choice", s, 0, 0);
             Edges.refused(BAD, "choice", 0, 0, s);
             Edges.refused(BAD, "choice", 9, 0, s);
         }
-        for (int k : Edges.NO_CHOICES) {
+        for (int k : NO_CHOICES) {
             Edges.refused(BAD, "choice", 0, k, 0);
             Edges.refused(BAD, "choice", 9, k, 0);
         }
@@ -270,14 +264,14 @@ final class SceneEdges {
             }
         }
         Edges.says(6, "BAD: no such SCENE, CHOICE, or a set is not 0 .. 255, or a FACT is in both");
-        for (int s : Edges.NO_SCENES) {
+        for (int s : NO_SCENES) {
             Edges.refused(BAD, "gives", s, 0, 2, 4);
         }
-        for (int k : Edges.NO_CHOICES) {
+        for (int k : NO_CHOICES) {
             Edges.refused(BAD, "gives", 0, k, 2, 4);
         }
         for (int[] choice : new int[][] {{0, 0}, {0, 1}, {9, 0}}) {
-            for (int set : Edges.NO_SETS) {
+            for (int set : NO_SETS) {
                 Edges.refused(BAD, "gives", choice[0], choice[1], set, 0);
                 Edges.refused(BAD, "gives", choice[0], choice[1], 0, set);
                 Edges.refused(BAD, "gives", choice[0], choice[1], set, set);
@@ -305,10 +299,10 @@ final class SceneEdges {
             }
         }
         Edges.says(7, "BAD: no such SCENE, CHOICE, words is not 0 .. 99, voice not 0 .. 3");
-        for (int s : Edges.NO_SCENES) {
+        for (int s : NO_SCENES) {
             Edges.refused(BAD, "line", s, 0, 1, 1);
         }
-        for (int k : Edges.NO_CHOICES) {
+        for (int k : NO_CHOICES) {
             Edges.refused(BAD, "line", 0, k, 1, 1);
         }
         for (int[] choice : new int[][] {{0, 0}, {0, 1}, {9, 0}}) {
@@ -344,10 +338,10 @@ final class SceneEdges {
             .does("keep", 0).does("drop", 0, 0).does("keep", 1).does("choice", 0, 0, 0)
             .are("about", new long[] {0, 0}, 0, 0, 256, 0, 0, 0, 0).does("drop", 0, 0).is(0, "melt");
         Edges.says(8, "BAD: no such SCENE, CHOICE");
-        for (int s : Edges.NO_SCENES) {
+        for (int s : NO_SCENES) {
             Edges.refused(BAD, "drop", s, 0);
         }
-        for (int k : Edges.NO_CHOICES) {
+        for (int k : NO_CHOICES) {
             Edges.refused(BAD, "drop", 0, k);
             Edges.refused(BAD, "drop", 9, k);
         }
@@ -358,14 +352,14 @@ final class SceneEdges {
         new Run().is(0, "start", 255).is(255, "count", 5).is(255, "start", 0).is(0, "start", 128).is(128, "start", 1)
             .is(1, "start", 1).is(1, "count", 5);
         Edges.says(9, "BAD: it is not 0 .. 255");
-        for (int set : Edges.NO_SETS) {
+        for (int set : NO_SETS) {
             Edges.refused(BAD, "start", set);
         }
     }
 
     private static void p10Of() {
-        Edges.says(10, "Of a SCENE: 0 its KIND (-1: not there), 1 whether it is CUT, 2 the FACTS that its NEED READS, 3 "
-            + "for how many sets that holds (256 without one), 4 its SET, 5 a bit for each CHOICE that is there");
+        Edges.says(10, "Of a SCENE: 0 its KIND (-1: not there), 1 whether it is CUT, 2 the FACTS that its NEED READS, "
+            + "3 for how many sets that holds (256 without one), 4 its SET, 5 a bit for each CHOICE that is there");
         for (int s : new int[] {0, 19}) {
             Run run = new Run().is(-1, "of", s, 0).is(0, "of", s, 1).does("cut", s, 1).is(-1, "of", s, 0)
                 .is(1, "of", s, 1);
@@ -381,7 +375,7 @@ final class SceneEdges {
             }
         }
         Edges.says(10, "BAD: no such SCENE, what");
-        for (int s : Edges.NO_SCENES) {
+        for (int s : NO_SCENES) {
             for (int what = 0; what < 6; what++) {
                 Edges.refused(BAD, "of", s, what);
             }
@@ -411,11 +405,11 @@ final class SceneEdges {
             }
         }
         Edges.says(11, "BAD: no such SCENE, CHOICE, what");
-        for (int s : Edges.NO_SCENES) {
+        for (int s : NO_SCENES) {
             Edges.refused(BAD, "about", s, 0, 0);
             Edges.refused(BAD, "about", s, 5, 6);
         }
-        for (int k : Edges.NO_CHOICES) {
+        for (int k : NO_CHOICES) {
             Edges.refused(BAD, "about", 0, k, 0);
             Edges.refused(BAD, "about", 9, k, 6);
         }

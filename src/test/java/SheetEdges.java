@@ -1,13 +1,5 @@
 /** The sentences of the promises 20 to 25: cuts, sheets, sessions. */
-final class SheetEdges {
-    private static final int BAD = Edges.BAD;
-    private static final int NONE = Edges.NONE;
-    private static final int NOTHING = Edges.NOTHING;
-    private static final int PLACE = Edges.PLACE;
-    private static final int SORT = Edges.SORT;
-    private static final int SIZE = Edges.SIZE;
-    private static final int LEAST = Edges.LEAST;
-    private static final int MOST = Edges.MOST;
+final class SheetEdges implements Findings {
     private static final int[] NO_SHEETS = {-1, 4, LEAST, MOST};
     private static final int[] NO_SORTS = {-1, 3, LEAST, MOST};
 
@@ -40,7 +32,7 @@ final class SheetEdges {
         TermEdges.chain(3).does("cut", 19, 1).is(19, "states", 0).is(0, "states", 1).does("cut", 19, 0)
             .is(20, "states", 0).does("cut", 0, 1).is(0, "states", 0).does("cut", 0, 0).is(20, "states", 0);
         Edges.says(20, "BAD: no such SCENE");
-        for (int s : Edges.NO_SCENES) {
+        for (int s : NO_SCENES) {
             Edges.refused(BAD, "cut", s, 1);
             Edges.refused(BAD, "cut", s, 0);
         }
@@ -206,8 +198,9 @@ final class SheetEdges {
     }
 
     private static void p24Words() {
-        Edges.says(24, "WORDS of all CHOICES of a SCENE that are there come from a SHEET, taken as a row of a SORT: CHOICE "
-            + "k's are number i + k, those below 0 being 0, those above 99 being 99: how many were one of these");
+        Edges.says(24, "WORDS of all CHOICES of a SCENE that are there come from a SHEET, taken as a row of a SORT: "
+            + "CHOICE k's are number i + k, those below 0 being 0, those above 99 being 99: how many were one of "
+            + "these");
         wordsAre(sixLines().is(0, "words", 0, 1, 2, 0), 1, 2, 3, 4, 5, 6);
         wordsAre(sixLines().is(0, "words", 0, 1, 2, 24), 25, 26, 27, 28, 29, 30);
         int[] numbers = {-1, 0, 99, 100, LEAST, MOST};
@@ -250,7 +243,7 @@ final class SheetEdges {
 
     private static void p24Refused() {
         Edges.says(24, "BAD: no such SCENE, SHEET, SORT");
-        for (int s : Edges.NO_SCENES) {
+        for (int s : NO_SCENES) {
             Edges.refused(BAD, "words", s, 0, 0, 0);
         }
         for (int sheet : NO_SHEETS) {
@@ -307,8 +300,8 @@ final class SheetEdges {
     }
 
     private static void p25Sessions() {
-        Edges.says(25, "The fewest SESSIONS for a VOICE: rows of its CHOICES that are there and have WORDS, one behind the "
-            + "other by SCENES and CHOICES, none with more than so many WORDS");
+        Edges.says(25, "The fewest SESSIONS for a VOICE: rows of its CHOICES that are there and have WORDS, one behind "
+            + "the other by SCENES and CHOICES, none with more than so many WORDS");
         for (int voice = 0; voice < 4; voice++) {
             new Run().is(0, "sessions", voice, 1).is(0, "sessions", voice, 1000);
             lines(voice, 1).is(1, "sessions", voice, 1).is(1, "sessions", voice, 1000)

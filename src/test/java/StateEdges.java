@@ -1,10 +1,5 @@
 /** The sentences of the promises 12 to 19: what can be come to. */
-final class StateEdges {
-    private static final int BAD = Edges.BAD;
-    private static final int NONE = Edges.NONE;
-    private static final int NOTHING = Edges.NOTHING;
-    private static final int LEAST = Edges.LEAST;
-    private static final int MOST = Edges.MOST;
+final class StateEdges implements Findings {
     private static final String ALL = "a&b&c&d&e&f&g&h";
 
     private StateEdges() {
@@ -65,7 +60,7 @@ final class StateEdges {
             .does("cut", 0, 1).is(0, "reached", 19).is(0, "reached", 0).is(0, "count", 4);
         TermEdges.allStates().is(256, "reached", 0).is(256, "reached", 19).is(BAD, "reached", 20);
         Edges.says(13, "BAD: no such SCENE");
-        for (int s : Edges.NO_SCENES) {
+        for (int s : NO_SCENES) {
             Edges.refused(BAD, "reached", s);
         }
     }
@@ -79,7 +74,7 @@ final class StateEdges {
                 .does("scene", s, 2).is(129, "live", s).does("loss", s, 255).is(129, "live", s);
         }
         Edges.says(14, "BAD: no such SCENE");
-        for (int s : Edges.NO_SCENES) {
+        for (int s : NO_SCENES) {
             Edges.refused(BAD, "live", s);
         }
         Edges.says(14, "NOTHING: it is not there");
@@ -97,10 +92,10 @@ final class StateEdges {
             .scene(18, 1, "!b").is(128, "open", 17, 0).does("cut", 18, 1).is(0, "open", 17, 0)
             .is(0, "open", 18, 5).does("cut", 0, 1).is(0, "open", 0, 0).is(0, "count", 4);
         Edges.says(15, "BAD: no such SCENE, CHOICE");
-        for (int s : Edges.NO_SCENES) {
+        for (int s : NO_SCENES) {
             Edges.refused(BAD, "open", s, 0);
         }
-        for (int k : Edges.NO_CHOICES) {
+        for (int k : NO_CHOICES) {
             Edges.refused(BAD, "open", 0, k);
             Edges.refused(BAD, "open", 9, k);
         }
@@ -110,7 +105,7 @@ final class StateEdges {
         }
     }
 
-    /** CHOICE 0 leads on, from SCENE 16 to 19, and from there to the ENDING (17); all others lead into the hole (18). */
+    /** CHOICE 0 leads on, from SCENE 16 to 19, from there to the ENDING (17); all others lead into the hole (18). */
     private static Run manyTraps() {
         Run run = new Run();
         for (int s = 0; s < 20; s++) {
@@ -157,7 +152,7 @@ final class StateEdges {
         allFactsOnTheWay().is(18, "way", 18).is(27, "way", 19).does("start", 255).is(19, "way", 19)
             .does("start", 127).is(20, "way", 19);
         Edges.says(17, "BAD: no such SCENE");
-        for (int s : Edges.NO_SCENES) {
+        for (int s : NO_SCENES) {
             Edges.refused(BAD, "way", s);
         }
         Edges.says(17, "NONE: none is REACHED");
@@ -207,7 +202,7 @@ final class StateEdges {
 
     private static void p18Refused() {
         Edges.says(18, "BAD: no such SCENE, or i is below 0");
-        for (int s : Edges.NO_SCENES) {
+        for (int s : NO_SCENES) {
             Edges.refused(BAD, "step", s, 0);
             Edges.refused(BAD, "step", s, -1);
         }

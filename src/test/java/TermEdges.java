@@ -1,15 +1,5 @@
 /** The sentences under 'Terms', but for those of TEXTS. */
-final class TermEdges {
-    private static final int TERMS = Edges.TERMS;
-    private static final int BAD = Edges.BAD;
-    private static final int NONE = Edges.NONE;
-    private static final int CLASHED = Edges.CLASHED;
-    private static final int NOTHING = Edges.NOTHING;
-    private static final int PLACE = Edges.PLACE;
-    private static final int SORT = Edges.SORT;
-    private static final int SIZE = Edges.SIZE;
-    private static final int WRONG = Edges.WRONG;
-
+final class TermEdges implements Findings {
     private TermEdges() {
     }
 
@@ -78,17 +68,30 @@ final class TermEdges {
     private static void order() {
         Edges.says(TERMS, "what is wrong is asked in the order in which it is told");
         World full = World.FULL;
-        long[][] bad = {
-            {1, 20, 256}, {1, 9, 256}, {1, 0, 256}, {2, 9, 6, 0}, {2, 9, 0, 20}, {3, 9, 0, 1, 1}, {3, 0, 1, 256, 0},
-            {3, 9, 0, 0, 256}, {4, 9, 0, 100, 0}, {4, 0, 1, 0, 4}, {5, 9, 6}, {6, 9, 0, 7}, {6, 0, 1, -1}, {7, 9, 6},
-            {8, 4, -1}, {8, 9, -1}, {9, 4, 0, -1}, {9, 0, 3, -1}, {10, 4, -1, 0}, {11, 9, 4, 0, 0}, {11, 9, 3, 3, -1},
-            {11, 20, 3, 1, -1}, {12, 2, 0}, {12, 4, 40}
-        };
-        String[] names = {"", "loss", "choice", "gives", "line", "of", "about", "open", "step", "sheet", "write", "words",
-            "sessions"};
-        for (long[] call : bad) {
-            Edges.refusedIn(full, BAD, names[(int) call[0]], java.util.Arrays.copyOfRange(call, 1, call.length));
-        }
+        Edges.refusedIn(full, BAD, "loss", 20, 256);
+        Edges.refusedIn(full, BAD, "loss", 9, 256);
+        Edges.refusedIn(full, BAD, "loss", 0, 256);
+        Edges.refusedIn(full, BAD, "choice", 9, 6, 0);
+        Edges.refusedIn(full, BAD, "choice", 9, 0, 20);
+        Edges.refusedIn(full, BAD, "gives", 9, 0, 1, 1);
+        Edges.refusedIn(full, BAD, "gives", 0, 1, 256, 0);
+        Edges.refusedIn(full, BAD, "gives", 9, 0, 0, 256);
+        Edges.refusedIn(full, BAD, "line", 9, 0, 100, 0);
+        Edges.refusedIn(full, BAD, "line", 0, 1, 0, 4);
+        Edges.refusedIn(full, BAD, "of", 9, 6);
+        Edges.refusedIn(full, BAD, "about", 9, 0, 7);
+        Edges.refusedIn(full, BAD, "about", 0, 1, -1);
+        Edges.refusedIn(full, BAD, "open", 9, 6);
+        Edges.refusedIn(full, BAD, "step", 4, -1);
+        Edges.refusedIn(full, BAD, "step", 9, -1);
+        Edges.refusedIn(full, BAD, "sheet", 4, 0, -1);
+        Edges.refusedIn(full, BAD, "sheet", 0, 3, -1);
+        Edges.refusedIn(full, BAD, "write", 4, -1, 0);
+        Edges.refusedIn(full, BAD, "words", 9, 4, 0, 0);
+        Edges.refusedIn(full, BAD, "words", 9, 3, 3, -1);
+        Edges.refusedIn(full, BAD, "words", 20, 3, 1, -1);
+        Edges.refusedIn(full, BAD, "sessions", 2, 0);
+        Edges.refusedIn(full, BAD, "sessions", 4, 40);
         Edges.refusedIn(World.BRIM, BAD, "scene", 20, 1);
         Edges.refusedIn(World.BRIM, BAD, "scene", 0, 5);
         Edges.refusedIn(World.BRIM, BAD, "choice", 0, 6, 0);
@@ -128,7 +131,7 @@ final class TermEdges {
         kind(4, 1, 128, 0, 1, 0);
     }
 
-    /** SCENE 1 of a KIND that the tape says 'a' for: its NEED, whether one goes on from it, or it ends, what it takes. */
+    /** SCENE 1 of a KIND, with 'a' on the tape: its NEED, whether one goes on from it, or it ends, what it takes. */
     private static void kind(int kind, int reads, int holds, int goesOn, int ends, int loses) {
         new Run().does("scene", 0, 0).scene(1, kind, "a").does("choice", 0, 0, 1).does("choice", 1, 0, 0)
             .is(kind, "of", 1, 0).is(reads, "of", 1, 2).is(holds, "of", 1, 3).is(0, "of", 1, 4)
@@ -210,8 +213,8 @@ final class TermEdges {
 
     private static void open() {
         Edges.says(TERMS, "A CHOICE is OPEN in a STATE of its SCENE if that is no ENDING (nor PRIZE), its NEED holds, "
-            + "TO is there and not CUT, and (if TO has a NEED) that holds for the FACTS behind the CHOICE: those of the "
-            + "STATE less what it TAKES, and what it GIVES");
+            + "TO is there and not CUT, and (if TO has a NEED) that holds for the FACTS behind the CHOICE: those of "
+            + "the STATE less what it TAKES, and what it GIVES");
         for (int kind = 0; kind < 5; kind++) {
             new Run().does("scene", 0, kind).does("choice", 0, 0, 0).is(kind < 3 ? 1 : 0, "open", 0, 0);
         }
@@ -306,7 +309,8 @@ final class TermEdges {
     }
 
     private static void traps() {
-        Edges.says(TERMS, "A TRAP is a CHOICE that leads from some REACHED STATE that is not HOPELESS to a HOPELESS one");
+        Edges.says(TERMS, "A TRAP is a CHOICE that leads from some REACHED STATE that is not HOPELESS to a HOPELESS "
+            + "one");
         Run run = new Run();
         for (int s = 0; s < 5; s++) {
             run.does("scene", s, s == 1 ? 3 : 0);
@@ -324,8 +328,8 @@ final class TermEdges {
     }
 
     private static void live() {
-        Edges.says(TERMS, "LIVE are FACTS at a SCENE that is there: those that the NEED of a CHOICE of it READS, if its "
-            + "TO is there");
+        Edges.says(TERMS, "LIVE are FACTS at a SCENE that is there: those that the NEED of a CHOICE of it READS, if "
+            + "its TO is there");
         new Run().does("scene", 0, 0).choice(0, 0, 1, "a&h").is(0, "live", 0).is(NOTHING, "live", 1)
             .does("scene", 1, 0).is(129, "live", 0).is(0, "live", 1).choice(0, 5, 1, "c&(d|!d)").is(133, "live", 0)
             .does("scene", 1, -1).is(0, "live", 0);
@@ -374,7 +378,7 @@ final class TermEdges {
 
     private static void sheets() {
         Edges.says(TERMS, "SHEETS 0 to 3 are rows of bytes (SORT 0), shorts (1) or ints (2), or MISSING (at first)");
-        int[][] last = {{127, -128, 0}, {32767, -32768, 0}, {Edges.MOST, Edges.LEAST, 1}};
+        int[][] last = {{127, -128, 0}, {32767, -32768, 0}, {MOST, LEAST, 1}};
         for (int s = 0; s < 4; s++) {
             Run run = new Run().is(NOTHING, "write", s, 0, 0);
             for (int sort = 0; sort < 3; sort++) {
@@ -399,8 +403,8 @@ final class TermEdges {
                 .is(1, "at", 1).is(2, "count", 4);
         }
         Edges.says(TERMS, "ITEMS: each SCENE with its KIND, NEED, SET (or that it is not there), each CHOICE with all "
-            + "that it has (or that it is not there), THE START: 141 of them, numbered: SCENE s is 7 s, its CHOICE k is "
-            + "7 s + 1 + k, THE START 140");
+            + "that it has (or that it is not there), THE START: 141 of them, numbered: SCENE s is 7 s, its CHOICE k "
+            + "is 7 s + 1 + k, THE START 140");
         allItems();
         eachPart();
     }

@@ -1,8 +1,5 @@
 /** The sentences under 'Terms' that tell of FACTS, of NEEDS and of their TEXTS. */
-final class TextEdges {
-    private static final int TERMS = Edges.TERMS;
-    private static final int WRONG = Edges.WRONG;
-
+final class TextEdges implements Findings {
     private TextEdges() {
     }
 
@@ -126,8 +123,9 @@ final class TextEdges {
         firstByte();
         twelveOthers();
         longTexts();
-        for (String open : new String[] {"!", "(", "(a", "(a&", "a|", "((a)", "!(", "!!!!!!!!!!!!", "(a|(b&!", "a&(b"}) {
-            wrong(open, open.length());
+        String[] open = {"!", "(", "(a", "(a&", "a|", "((a)", "!(", "!!!!!!!!!!!!", "(a|(b&!", "a&(b"};
+        for (String text : open) {
+            wrong(text, text.length());
         }
     }
 
