@@ -65,28 +65,25 @@ public final class LargeTalesTest {
         }
     }
 
-    /** All 5120 states, each with six open choices; a cut that nothing mends. */
+    /** All 5120 states, each with six open choices: a ring in which each scene can give a fact, and take it. */
     private static TaleBench dearest() {
         TaleBench b = new TaleBench();
-        for (int s = 0; s < 19; s++) {
-            b.scene(s, 0);
-        }
-        b.scene(19, 1);
         for (int s = 0; s < 20; s++) {
+            b.scene(s, 0);
             for (int k = 0; k < 6; k++) {
-                b.choice(s, k, s == 17 ? (k == 0 ? 18 : 0) : s == 18 ? 19 : (s + 1) % 18);
-                b.gives(s, k, s == k ? 1 << k : s == k + 8 ? 64 : s == 14 ? 128 : 0, s == k + 9 ? 1 << k : 0);
+                b.choice(s, k, k < 2 ? s : (s + 1) % 20);
             }
+            b.gives(s, 0, 1 << s % 8, 0);
+            b.gives(s, 1, 0, 1 << s % 8);
         }
-        b.choice(19, 0, 0);
         return b;
     }
 
     private static void dearestCalls() {
         TaleBench b = dearest();
-        int states = b.states(0);
+        Check.due("dearest: states", b.states(0), 5120);
         b.cut(18, true);
-        b.mend();
+        Check.due("dearest: nothing mends", b.mend(), Findings.NONE);
         com.sun.management.ThreadMXBean thread =
             (com.sun.management.ThreadMXBean) ManagementFactory.getThreadMXBean();
         long id = Thread.currentThread().getId();
@@ -99,7 +96,7 @@ public final class LargeTalesTest {
                 + b.choice(0, 0, 1) + b.sheet(0, 0, 30) + b.words(0, 0, 0, 0) + b.sessions(0, 9) + b.play();
         }
         long made = thread.getThreadAllocatedBytes(id) - before;
-        System.out.println("dearest: " + states + " states, " + made + " bytes made in 1080 calls, sum " + answers);
+        System.out.println("dearest: " + made + " bytes made in 1080 calls, sum " + answers);
         Check.due("calls make next to nothing", made < 20000 ? 0 : made, 0);
     }
 
