@@ -77,6 +77,9 @@ final class SheetEdges implements Findings {
         TermEdges.allStates().does("choice", 17, 0, 19).does("choice", 19, 0, 18).does("choice", 18, 0, 0)
             .choice(0, 3, 18, "a&b&c&d&e&f&g&h").is(5120, "states", 0).is(0, "mend").does("cut", 19, 1).is(254, "mend")
             .does("start", 0xf0).is(0x0e, "mend").does("cut", 18, 1).is(0, "mend");
+        // However far it is from THE BEGINNING: all but h can be got on the way.
+        StateEdges.sevenRounds().is(0, "mend").does("cut", 19, 1).is(128, "mend").does("start", 128).is(0, "mend")
+            .does("start", 85).is(128, "mend").does("cut", 7, 1).is(NONE, "mend");
         Edges.says(21, "(Nothing changes.)");
         Edges.changesNothing("mend");
         shortCut("a").is(1, "states", 0).is(1, "mend").is(1, "states", 0).is(0, "count", 5).is(1, "of", 1, 1)

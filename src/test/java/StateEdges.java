@@ -151,6 +151,9 @@ final class StateEdges implements Findings {
         // As few CHOICES as there are, not as few SCENES: each FACT costs one more.
         allFactsOnTheWay().is(18, "way", 18).is(27, "way", 19).does("start", 255).is(19, "way", 19)
             .does("start", 127).is(20, "way", 19);
+        // Seven times round for seven FACTS.
+        sevenRounds().is(2, "way", 18).does("cut", 19, 1).is(NONE, "way", 18).does("start", 128)
+            .is(7 * 18 + 1, "way", 18);
         Edges.says(17, "BAD: no such SCENE");
         for (int s : NO_SCENES) {
             Edges.refused(BAD, "way", s);
@@ -174,6 +177,22 @@ final class StateEdges implements Findings {
         return run;
     }
 
+    /**
+     * SCENES 0 to 17 are a ring; each time round one of the FACTS a to g can be got, the next one at the SCENE ahead.
+     * From 0 one comes to 18 with all eight FACTS, or by 19.
+     */
+    static Run sevenRounds() {
+        Run run = new Run().does("scene", 18, 0).does("scene", 19, 0);
+        for (int s = 0; s < 18; s++) {
+            run.does("scene", s, 0).does("choice", s, 0, (s + 1) % 18);
+        }
+        for (int s = 7; s > 0; s--) {
+            run.choice(s, 1, s + 1, ALL.substring(0, Math.max(0, 2 * (7 - s) - 1)))
+                .does("gives", s, 1, 1 << 7 - s, 0);
+        }
+        return run.choice(0, 1, 18, ALL).does("choice", 0, 2, 19).does("choice", 19, 0, 18);
+    }
+
     private static void p18Step() {
         Edges.says(18, "The i-th CHOICE of that way, from 0 on: of the ways with as few the one with the lesser CHOICE "
             + "where two first differ");
@@ -181,6 +200,11 @@ final class StateEdges implements Findings {
         for (int i = 0; i < 27; i++) {
             run.is(i < 16 && i % 2 == 0 ? 1 : 5, "step", 19, i);
         }
+        run = sevenRounds().does("cut", 19, 1).does("start", 128);
+        for (int i = 0; i < 126; i++) {
+            run.is(i % 18 == 7 - i / 18 ? 1 : 0, "step", 18, i);
+        }
+        run.is(1, "step", 18, 126).is(-1, "step", 18, 127);
         // Two ways of two: 1 5 by SCENE 2, and 2 0 by SCENE 1; that they come with other FACTS is nothing to them.
         for (int facts : new int[] {0, 255}) {
             new Run().does("scene", 0, 0).does("scene", 1, 0).does("scene", 2, 0).does("scene", 19, 0)
