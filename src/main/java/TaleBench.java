@@ -428,7 +428,7 @@ public final class TaleBench {
             int state = web.order[i];
             web.marks[state] = tale.isEndingState(state) ? 1 : 0;
         }
-        web.spreadMarks();
+        web.spreadMark(1);
         webIsFresh = true;
     }
 
@@ -473,7 +473,9 @@ public final class TaleBench {
             int state = web.order[i];
             web.marks[state] = wanted & 1 << sceneOf(state);
         }
-        web.spreadMarks();
+        for (int s = 0; s < SCENES; s++) {
+            web.spreadMark(wanted & 1 << s);
+        }
         return leastMending(wanted);
     }
 
@@ -1165,41 +1167,30 @@ public final class TaleBench {
             }
         }
 
-        /** Each STATE gets the marks of all STATES that can be come to from it. */
-        void spreadMarks() {
-            int first = 0;
+        /** Each STATE from which one with a mark can be come to gets that mark. */
+        void spreadMark(int mark) {
             int many = 0;
-            for (int i = size - 1; i >= 0; i--) {
-                if (marks[order[i]] != 0) {
+            for (int i = 0; i < size; i++) {
+                if ((marks[order[i]] & mark) != 0) {
                     queue[many] = order[i];
-                    flags[order[i]] = true;
                     many++;
                 }
             }
-            // A STATE comes to the queue again only with one more mark, of at most one a SCENE.
-            for (int turn = 0; many > 0 && turn < STATES * (SCENES + 1); turn++) {
-                int state = queue[first];
-                first = (first + 1) % STATES;
-                many--;
-                flags[state] = false;
-                many = spreadFrom(state, first, many);
+            for (int i = 0; i < many && i < STATES; i++) {
+                many = markStatesAhead(queue[i], mark, many);
             }
         }
 
-        /** How many STATES are in the queue then. */
-        private int spreadFrom(int state, int first, int many) {
+        /** How many STATES are in the queue then: one comes to it when it gets the mark, and so only once. */
+        private int markStatesAhead(int state, int mark, int many) {
             int queued = many;
             int step = lastInto[state];
             for (int i = 0; step != NOWHERE && i < STEPS; i++) {
                 int from = step / CHOICES;
-                int both = marks[from] | marks[state];
-                if (both != marks[from]) {
-                    marks[from] = both;
-                    if (!flags[from]) {
-                        flags[from] = true;
-                        queue[(first + queued) % STATES] = from;
-                        queued++;
-                    }
+                if ((marks[from] & mark) == 0 && queued < STATES) {
+                    marks[from] |= mark;
+                    queue[queued] = from;
+                    queued++;
                 }
                 step = link[step];
             }
