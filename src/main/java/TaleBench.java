@@ -474,7 +474,7 @@ public final class TaleBench {
             web.marks[state] = wanted & 1 << sceneOf(state);
         }
         for (int s = 0; s < SCENES; s++) {
-            web.spreadMark(wanted & 1 << s);
+            web.spreadMark(1 << s);
         }
         return leastMending(wanted);
     }

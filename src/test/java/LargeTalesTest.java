@@ -79,23 +79,36 @@ public final class LargeTalesTest {
         return b;
     }
 
+    /** How many bytes this thread has made so far. */
+    private static long bytesMade() {
+        return ((com.sun.management.ThreadMXBean) ManagementFactory.getThreadMXBean())
+            .getThreadAllocatedBytes(Thread.currentThread().getId());
+    }
+
+    /** An object takes a small part of the room that a run has. */
+    private static void newObject() {
+        bytesMade();
+        long before = bytesMade();
+        TaleBench b = new TaleBench();
+        long made = bytesMade() - before;
+        System.out.println("a new object: " + made + " bytes made, scenes " + b.count(0));
+        Check.due("a new object is small", made < 1_000_000 ? 0 : made, 0);
+    }
+
     private static void dearestCalls() {
         TaleBench b = dearest();
         Check.due("dearest: states", b.states(0), 5120);
         b.cut(18, true);
         Check.due("dearest: nothing mends", b.mend(), Findings.NONE);
-        com.sun.management.ThreadMXBean thread =
-            (com.sun.management.ThreadMXBean) ManagementFactory.getThreadMXBean();
-        long id = Thread.currentThread().getId();
-        thread.getThreadAllocatedBytes(id);
-        long before = thread.getThreadAllocatedBytes(id);
+        bytesMade();
+        long before = bytesMade();
         long answers = 0;
         for (int n = 0; n < 60; n++) {
             answers += b.mend() + b.states(4) + b.ways(20) + b.trap(n) + b.step(17, 3) + b.live(0) + b.cut(18, true)
                 + b.keep(0) + b.back(0) + b.keep(1) + b.melt() + b.clash(n) + b.feed(0x2828282828282828L, 8)
                 + b.choice(0, 0, 1) + b.sheet(0, 0, 30) + b.words(0, 0, 0, 0) + b.sessions(0, 9) + b.play();
         }
-        long made = thread.getThreadAllocatedBytes(id) - before;
+        long made = bytesMade() - before;
         System.out.println("dearest: " + made + " bytes made in 1080 calls, sum " + answers);
         Check.due("calls make next to nothing", made < 20000 ? 0 : made, 0);
     }
@@ -107,6 +120,7 @@ public final class LargeTalesTest {
             test.ask();
             test.askOfCuts();
         }
+        newObject();
         dearestCalls();
         Check.end("large tales");
     }

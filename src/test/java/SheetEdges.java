@@ -40,8 +40,12 @@ final class SheetEdges implements Findings {
 
     /** From SCENE 0 to 2 by 1, which is CUT, or with a NEED by the shorter CHOICE. */
     private static Run shortCut(String need) {
-        return new Run().does("scene", 0, 0).does("scene", 1, 0).does("scene", 2, 3).does("choice", 0, 0, 1)
-            .does("choice", 1, 0, 2).does("cut", 1, 1).choice(0, 1, 2, need);
+        return shortCutTo(2, need);
+    }
+
+    private static Run shortCutTo(int s, String need) {
+        return new Run().does("scene", 0, 0).does("scene", 1, 0).does("scene", s, 3).does("choice", 0, 0, 1)
+            .does("choice", 1, 0, s).does("cut", 1, 1).choice(0, 1, s, need);
     }
 
     private static void p21Mend() {
@@ -54,6 +58,9 @@ final class SheetEdges implements Findings {
         for (int f = 0; f < 8; f++) {
             shortCut("" + (char) ('a' + f)).is(1 << f, "mend").does("cut", 2, 1).is(0, "mend");
         }
+        for (int s = 2; s < 20; s++) {
+            shortCutTo(s, "c").is(4, "mend").is(NONE, "way", s).does("start", 4).is(0, "mend").is(1, "way", s);
+        }
         shortCut("a&b&c&d&e&f&g&h").is(255, "mend").does("start", 127).is(128, "mend").does("start", 254).is(1, "mend")
             .does("start", 255).is(0, "mend");
         shortCut("a&b|h").is(128, "mend");
@@ -64,7 +71,9 @@ final class SheetEdges implements Findings {
         shortCut("a|b&c").does("scene", 3, 0).choice(0, 2, 3, "!a").is(6, "mend").does("cut", 3, 1).is(1, "mend");
         shortCut("!a").is(0, "mend").does("start", 1).is(NONE, "mend");
         // What is not REACHED even if nothing is CUT need not be; what is CUT must not be come by.
-        shortCut("a").does("scene", 4, 0).choice(0, 5, 4, "h").is(1, "mend").does("start", 128).is(1, "mend");
+        shortCut("a").does("scene", 4, 0).choice(0, 5, 4, "h").is(1, "mend").does("start", 128).is(1, "mend")
+            // But it may be.
+            .does("start", 0).choice(0, 5, 4, "a").is(1, "mend").is(NONE, "way", 4);
         shortCut("a").does("choice", 2, 0, 5).does("scene", 5, 0).does("scene", 2, 0).is(1, "mend")
             .does("cut", 2, 1).is(NONE, "mend");
         // THE START of THE TALE, not of what is kept.

@@ -306,6 +306,32 @@ final class TermEdges implements Findings {
         }
         chain(3).scene(19, 4, "h").is(19, "states", 3).is(0, "states", 1).does("start", 128).is(0, "states", 3)
             .is(1, "states", 1);
+        // All STATES that there can be, and hope in each of them.
+        allStates().does("scene", 19, 3).does("choice", 18, 2, 0).is(5120, "states", 0).is(256, "states", 1)
+            .is(0, "states", 2).is(0, "states", 3).is(NONE, "trap", 0);
+        manyWaysToOne().is(19 * 256 + 1, "states", 0).is(1, "states", 1).is(0, "states", 3).is(NONE, "trap", 0)
+            // SCENE 18 gives nothing then, and has hope only with h.
+            .scene(19, 4, "h").does("choice", 18, 0, 19).does("drop", 18, 1).does("drop", 18, 2).does("drop", 18, 3)
+            .does("drop", 18, 4).does("drop", 18, 5).is(128, "states", 3).is(128, "states", 2).is(42, "trap", 0)
+            .is(NONE, "trap", 1);
+    }
+
+    /** From each of 256 STATES of each of the SCENES 5 to 18 six CHOICES, and no others, lead to one ENDING's STATE. */
+    private static Run manyWaysToOne() {
+        Run run = new Run().does("scene", 19, 3);
+        for (int s = 0; s < 5; s++) {
+            run.does("scene", s, 0).does("choice", s, 0, (s + 1) % 5);
+            for (int k = 1; k < 3 && s < 4; k++) {
+                run.does("choice", s, k, s).does("gives", s, k, 1 << 2 * s + k - 1, 0);
+            }
+        }
+        for (int s = 5; s < 19; s++) {
+            run.does("scene", s, 0).does("choice", s < 17 ? (s - 5) / 3 : 4, s < 17 ? 3 + (s - 5) % 3 : s - 16, s);
+            for (int k = 0; k < 6; k++) {
+                run.does("choice", s, k, 19).does("gives", s, k, 255, 0);
+            }
+        }
+        return run;
     }
 
     private static void traps() {
